@@ -21,6 +21,7 @@ public final class FootLights {
     private static final int MOST_PLAYERS = 6;
     private static final int MOST_TOLD_SITTERS = 5;
     private static final int MOST_OIL = 20;
+    private static final int PLENTY_OF_OIL = 1000;
     private static final int MOST_CLAPS = 999999;
     private static final int LAST_EVENING = 9999;
     private static final int MOST_ACTS = 24;
@@ -602,30 +603,26 @@ public final class FootLights {
         foretold.become(town);
     }
 
-    /** The bits of the fewest places that are to be filled, of several the least; NONE. */
+    /**
+     * The bits of the fewest places that are to be filled; NONE. As long as all are lit, nobody goes by
+     * how much oil there is, and what is dark stays dark: so a flame is to be filled just if it has no
+     * more than it burns with all of them lit.
+     */
     private int fewestFilled(int n) {
-        int needed = town.outBehind(n);
-        int fewest = NONE;
-        int number = town.places + 1;
-        for (int filled = 0; filled < 1 << town.places; filled++) {
-            // A flame that would burn out with nobody near it has to be among the filled ones.
-            boolean mayServe = (needed & ~filled) == 0 && Integer.bitCount(filled) < number;
-            if (mayServe && burnOnFilled(filled, n)) {
-                fewest = filled;
-                number = Integer.bitCount(filled);
+        foretellNow();
+        foretold.fillUp(PLENTY_OF_OIL);
+        foretold.passEvenings(n);
+        int filled = 0;
+        for (int i = 0; i < town.places; i++) {
+            int burnt = PLENTY_OF_OIL - foretold.oil[i];
+            if (MOST_OIL <= burnt) {
+                return NONE;
+            }
+            if (town.oil[i] <= burnt) {
+                filled |= 1 << i;
             }
         }
-        return fewest;
-    }
-
-    private boolean burnOnFilled(int filled, int n) {
-        foretellNow();
-        foretold.fillUp(filled);
-        // A place that is dark stays dark, as nobody pours: the first one ends it.
-        for (int i = 0; i < n && foretold.isAllLit(); i++) {
-            foretold.passEvening();
-        }
-        return foretold.isAllLit();
+        return filled;
     }
 
     /** The bits of the kinds (what = 0), the places (1), the ways (2) of a player by which it is as told. */
@@ -1058,11 +1055,9 @@ public final class FootLights {
             oil[place] = Math.min(MOST_OIL, oil[place] + n);
         }
 
-        void fillUp(int some) {
+        void fillUp(int n) {
             for (int i = 0; i < places; i++) {
-                if (hasBit(some, i)) {
-                    oil[i] = MOST_OIL;
-                }
+                oil[i] = n;
             }
         }
 
@@ -1108,21 +1103,6 @@ public final class FootLights {
                 }
             }
             return lit;
-        }
-
-        boolean isAllLit() {
-            return litPlaces() == (1 << places) - 1;
-        }
-
-        /** The places whose flames burn out behind n evenings, even with no player near them. */
-        int outBehind(int n) {
-            int out = 0;
-            for (int i = 0; i < places; i++) {
-                if (oil[i] <= burn * n) {
-                    out |= 1 << i;
-                }
-            }
-            return out;
         }
 
         int clapsFor(int player, int lit) {
