@@ -89,6 +89,9 @@ public final class ActsTest {
         goes("t1;f0;f9;f0;f9;r1,1;", 0, 2, 3, NONE, NONE);
         goes("t1;f0;f9;f0;f9;r1,0;", 0, 0, NONE);
         goes("t1;f0;f9;f0;f9;w1,0;", 0, 0, 0, NONE);
+        FootLights cart = Due.townOf("t1;f0;f9;f0;f9;r3,1;");
+        cart.evenings(1);
+        due.is("it sits where it was", cart.place(3, 2), 1);
         FootLights x = Due.townOf("t1;f9;f9;f9;f9;w0,0;");
         due.is("a widow in an even evening", x.crossing(0), 1);
         x.move(0, 1);

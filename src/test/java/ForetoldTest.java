@@ -103,6 +103,7 @@ public final class ForetoldTest {
         due.is("three", x.hold(1, 1, 3), 3);
         due.is("four", x.hold(1, 1, 4), 9);
         due.is("five", x.hold(1, 1, 5), NONE);
+        due.is("all 20", Due.townOf("t1;f0;f20;f20;f20;l0,0;r1,0;").hold(0, 0, 10), 20);
         due.is("a cart", x.hold(3, 0, 1), NONE);
         due.is("a farmer", x.hold(0, 0, 30), 0);
         FootLights full = Due.townOf("t3;f20;f20;f20;f20;l0,0;");

@@ -42,11 +42,13 @@ public final class RowsTest {
         due.is("least of items", x.row(1, 1, Integer.MIN_VALUE), SIZE);
         due.is("BAD ahead of SIZE", x.row(8, 0, -1), FootLights.BAD);
         due.is("none was made", x.count(0), 2);
+        x.set(7, 0, 5);
         x.set(7, 39, 5);
         due.is("a row in place of another", x.row(7, 2, 40), 40);
+        due.is("its first item is 0", sameInFits(x, 7, 0), 1);
         x.row(6, 2, 1);
         x.copy(7, 39, 6, 0, 1);
-        due.is("its items are 0", sameInFits(x, 6, 0), 1);
+        due.is("its last item is 0", sameInFits(x, 6, 0), 1);
     }
 
     /** Whether the first item of an int row is v: only fits reads items, by where a farmer in the light stays. */

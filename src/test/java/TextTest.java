@@ -156,6 +156,10 @@ public final class TextTest {
         due.is("the latest fault is told yet", x.fault(), 2);
         x.town();
         due.is("a later fault", x.fault(), 1);
+        Due.feed(x, "t111;");
+        x.town();
+        Due.feed(x, "t1");
+        due.is("what stood on the tape before is gone", x.town(), -1000102);
     }
 
     private static void drawnTextsAreReadAsByTheModel() {
