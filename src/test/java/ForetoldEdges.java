@@ -313,6 +313,8 @@ final class ForetoldEdges {
         lure(3, 2, 1, "t1;f9;f9;f9;f9;l1,0;l3,0;l3,0;");
         lure(1, 1, 1, "t1;f9;f9;f9;f9;l1,0;l3,0;");
         lure(0, 1, 1, "t1;f9;f9;f9;f9;r3,1;");
+        // Were all left alone, both would cross; but one is put out, and the other lad goes there.
+        lure(0, 1, 2, "t1;f1;f20;f20;f1;l0,0;l3,0;");
         // One that is dark lets them cross as it does now.
         lure(0, 1, 1, "t1;f0;f9;f9;f9;l0,0;");
         lure(1, 2, 1, "t1;f0;f9;f9;f9;l0,0;l1,0;");

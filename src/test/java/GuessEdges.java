@@ -296,6 +296,10 @@ final class GuessEdges {
         // 3: X is 50421: place 1 is put out, though 8 leaves 5.
         edges.run("t1;f9;f9;f9;f9;z1;l1,0;").tells(1, "drawn", 1, 3, 1);
         edges.run("t1;f9;f0;f9;f9;z1;l1,0;").tells(1, "drawn", 1, 3, 1);
+        // 171: X is 2873997 (place 1 is put out), then 1058627345 (1 comes to it).
+        Run anew = edges.run("t1;f0;f9;f0;f0;z1;a1,0;");
+        anew.tells(0, "drawn", 1, 171, 0);
+        anew.tells(1, "drawn", 2, 171, 0);
         // 193: 7 to place 3, then none there for long: 20 burn for ten evenings, 26 would for thirteen.
         Run full = edges.run("t1;f20;f20;f20;f19;z1;a3,0;");
         full.tells(0, "drawn", 10, 193, 0);

@@ -96,7 +96,7 @@ final class Run {
 
     /** Another object, on which there were so many calls more, is seen as it was before, but as told. */
     private void isAsBefore(String told, FootLights other, int more, Map<String, Integer> butFor) {
-        int room = MOST_CALLS - calls.size() - more;
+        int room = MOST_CALLS - calls.size() - 1 - more;
         if (room < LEAST_SEEN) {
             throw new IllegalStateException("no room to see anything: " + title);
         }
@@ -114,11 +114,13 @@ final class Run {
         due.is(told + " then sees", seenThen.size(), seenNow.size());
     }
 
+    /** The run once more; what is foretold at its end must matter to nothing that comes behind it. */
     private FootLights again() {
         FootLights other = new FootLights();
         for (Call call : calls) {
             Face.call(other, call.name, call.values);
         }
+        Face.call(other, "later", 60, 1);
         return other;
     }
 }

@@ -225,6 +225,7 @@ final class TextEdges {
         Run run = edges.run("t3;f9;f9;f9;f9;f9;z0;z1;r0,0;r1,0;a1,0;").is(0b11111, "evenings", 2).is(20, "pour", 0, 20);
         run.tells(2, "count", 5);
         run.tells(5, "count", 1);
+        run.does("later", 60, 1);
         run.feed(FOUR + "a0,0;").is(4, "town");
         int[] counts = {0, 4, 1, 0, 0, 0, 0, 0b1111, 0, 0};
         for (int what = 0; what < counts.length; what++) {
