@@ -727,7 +727,10 @@ public final class FootLights {
             return 0;
         }
         leaveTrace(number);
-        int deeper = depth + 1;
+        return bodyGives(number, player, depth + 1);
+    }
+
+    private int bodyGives(int number, int player, int deeper) {
         switch (number) {
             case 10:
                 return town.way[player];
